@@ -32,7 +32,7 @@ public final class PassHuts {
     private final Reader reader;
     private final Lyings lyings;
     private final Story story;
-    private final Comings comings;
+    private final Prospects prospects;
     private final Walk walk;
     private final Survey survey;
     private Hills land;
@@ -49,9 +49,9 @@ public final class PassHuts {
         draft = new Hills();
         plan = new Trip();
         sketch = new Trip();
-        comings = new Comings(lyings, land);
+        prospects = new Prospects(lyings, land);
         walk = new Walk(lyings, land);
-        survey = new Survey(lyings, comings, land);
+        survey = new Survey(lyings, prospects, land);
     }
 
     public int feed(long a, long b, long c) {
@@ -69,7 +69,7 @@ public final class PassHuts {
             draft = old;
             plan.clear();
             story.restart(land.toldLying());
-            comings.moveTo(land);
+            prospects.moveTo(land);
             walk.moveTo(land);
             survey.moveTo(land);
         }
@@ -168,24 +168,24 @@ public final class PassHuts {
     }
 
     public int least(int hut) {
-        comings.prepare();
-        return land.isHut(hut) ? comings.fewestTo(story.lying, hut) : NONE;
+        prospects.prepare();
+        return land.isHut(hut) ? prospects.fewestTo(story.lying, hut) : NONE;
     }
 
     public int row(int hut, int i) {
         if (!land.isHut(hut) || i < 0) {
             return NONE;
         }
-        comings.prepare();
-        return comings.stepOfRow(story.lying, hut, i);
+        prospects.prepare();
+        return prospects.stepOfRow(story.lying, hut, i);
     }
 
     public int ways(int hut) {
         if (!land.isHut(hut)) {
             return NONE;
         }
-        comings.prepare();
-        int fewest = comings.fewestTo(story.lying, hut);
+        prospects.prepare();
+        int fewest = prospects.fewestTo(story.lying, hut);
         if (fewest < 0) {
             return 0;
         }
@@ -245,14 +245,14 @@ public final class PassHuts {
     }
 
     public int needed(int hut) {
-        comings.prepare();
-        if (!land.isHut(hut) || !comings.comesTo(story.lying, hut)) {
+        prospects.prepare();
+        if (!land.isHut(hut) || !prospects.comesTo(story.lying, hut)) {
             return NONE;
         }
         int bits = 0;
         for (int j = 0; j < land.huts; j++) {
             int less = land.afterEating(story.lying, j);
-            if (less >= 0 && !comings.comesTo(less, hut)) {
+            if (less >= 0 && !prospects.comesTo(less, hut)) {
                 bits |= 1 << j;
             }
         }
@@ -263,16 +263,16 @@ public final class PassHuts {
         if (!land.isHut(hut)) {
             return NONE;
         }
-        comings.prepare();
-        return comings.hutsFrom(land.onlyIn(story.lying, hut));
+        prospects.prepare();
+        return prospects.hutsFrom(land.onlyIn(story.lying, hut));
     }
 
     public int lack(int hut, int what) {
         if (!land.isHut(hut) || what != NONE && !land.isHut(what)) {
             return NO_ANSWER;
         }
-        comings.prepare();
-        if (comings.comesTo(story.lying, hut)) {
+        prospects.prepare();
+        if (prospects.comesTo(story.lying, hut)) {
             return 0;
         }
         int where = survey.firstToLayIn(story.lying, hut);
@@ -286,7 +286,7 @@ public final class PassHuts {
         if (!land.isHut(hut) || what != NONE && !land.isHut(what)) {
             return NO_ANSWER;
         }
-        comings.prepare();
+        prospects.prepare();
         int rest = survey.firstGuarded(story.lying, hut);
         if (rest < 0) {
             return NO_ANSWER;
@@ -330,7 +330,7 @@ public final class PassHuts {
     }
 
     public int comes(int hut, int loads) {
-        comings.prepare();
+        prospects.prepare();
         return land.isHut(hut) && isSum(loads) ? survey.countComing(hut, loads) : NONE;
     }
 
@@ -339,12 +339,12 @@ public final class PassHuts {
     }
 
     public int sure(int hut) {
-        comings.prepare();
+        prospects.prepare();
         return land.isHut(hut) ? survey.sureFrom(1 << hut) : NONE;
     }
 
     public int always() {
-        comings.prepare();
+        prospects.prepare();
         return land.huts == 0 ? NONE : survey.sureFrom(land.allHuts());
     }
 
@@ -352,7 +352,7 @@ public final class PassHuts {
         if (!land.isHut(hut) || !isSum(loads) || !land.isHut(of)) {
             return NONE;
         }
-        comings.prepare();
+        prospects.prepare();
         int lying = survey.firstWithout(hut, loads);
         return lying < 0 ? NONE : land.loadsIn(lying, of);
     }
@@ -361,7 +361,7 @@ public final class PassHuts {
         if (what != NONE && !land.isHut(what)) {
             return NO_ANSWER;
         }
-        comings.prepare();
+        prospects.prepare();
         int lying = survey.firstForAll();
         if (lying < 0) {
             return NO_ANSWER;
@@ -373,16 +373,15 @@ public final class PassHuts {
         if (what != 0 && what != 1) {
             return NONE;
         }
-        walk.startAt(story.lying);
-        int length = walk.pullLength();
+        prospects.prepare();
+        int length = prospects.pullLength(story.lying);
         // Who is first makes the last carrying just when their number is odd.
         return what == 0 ? length & 1 : length;
     }
 
     public int his() {
-        walk.startAt(story.lying);
-        walk.pullLength();
-        int way = walk.bestPull(story.lying);
+        prospects.prepare();
+        int way = prospects.bestPull(story.lying);
         return way < 0 ? NONE : land.codeOf(way);
     }
 
@@ -473,8 +472,8 @@ public final class PassHuts {
             case 4:
                 return land.occupied(story.lying);
             case 5:
-                comings.prepare();
-                return comings.hutsFrom(story.lying);
+                prospects.prepare();
+                return prospects.hutsFrom(story.lying);
             case 6:
                 return plan.lines;
             case 7:
@@ -1606,18 +1605,22 @@ public final class PassHuts {
         }
     }
 
-    /** Of each way to lie, behind how many carryings a load can lie in which hut. */
-    private static final class Comings {
+    /**
+     * Of each way to lie, what lies ahead: behind how many carryings a load can lie in which hut, and in how many
+     * carryings two who pull by turns are through.
+     */
+    private static final class Prospects {
         // A carrying leaves a load less at least, so 11 carryings are the most: 12 bits a hut, one for each number.
         private static final int BITS = 12;
         private static final long MASK = 4095L;
 
         private final Lyings lyings;
         private final long[] comings = new long[ALL_LYINGS];
+        private final int[] pulls = new int[ALL_LYINGS];
         private Hills hills;
         private boolean known;
 
-        Comings(Lyings lyings, Hills hills) {
+        Prospects(Lyings lyings, Hills hills) {
             this.lyings = lyings;
             this.hills = hills;
         }
@@ -1637,19 +1640,22 @@ public final class PassHuts {
             for (int sum = 0; sum <= MOST_LOADS; sum++) {
                 int end = lyings.endOf(sum, hills.huts);
                 for (int number = lyings.firstOf(sum); number < end && number < ALL_LYINGS; number++) {
-                    int lying = lyings.lyingAt(number);
-                    comings[number] = hills.isWayToLie(lying) ? reckonOne(lying, sum) : 0;
+                    if (hills.isWayToLie(lyings.lyingAt(number))) {
+                        reckonOne(number, sum);
+                    }
                 }
             }
         }
 
-        private long reckonOne(int lying, int sum) {
+        private void reckonOne(int number, int sum) {
+            int lying = lyings.lyingAt(number);
             long later = 0;
-            for (int way = 0; way < hills.ways && way < MOST_WAYS; way++) {
-                int next = hills.afterWay(lying, sum, way);
-                if (next >= 0) {
-                    int number = lyings.numberOf(next, sum - hills.prices[way] + 1);
-                    later |= number >= 0 ? comings[number] : 0;
+            int pull = NONE;
+            for (int way = 0; way < hills.ways; way++) {
+                int behind = numberBehind(lying, sum, way);
+                if (behind >= 0) {
+                    later |= comings[behind];
+                    pull = isBetterPull(pulls[behind], pull) ? pulls[behind] : pull;
                 }
             }
             long now = 0;
@@ -1658,7 +1664,46 @@ public final class PassHuts {
                     now |= 1L << BITS * i;
                 }
             }
-            return later << 1 | now;
+            comings[number] = later << 1 | now;
+            pulls[number] = pull + 1;
+        }
+
+        private int numberBehind(int lying, int sum, int way) {
+            int next = hills.afterWay(lying, sum, way);
+            if (next < 0 || way < 0 || way >= MOST_WAYS) {
+                return NONE;
+            }
+            return lyings.numberOf(next, sum - hills.prices[way] + 1);
+        }
+
+        // An even number of carryings behind one's own is lost by the other one, who has to begin it.
+        private static boolean isBetterPull(int length, int best) {
+            boolean winsSo = length % 2 == 0;
+            boolean winsByBest = best % 2 == 0;
+            if (best == NONE || winsSo != winsByBest) {
+                return best == NONE || winsSo;
+            }
+            return winsSo ? length < best : length > best;
+        }
+
+        int pullLength(int lying) {
+            int number = lyings.numberOf(lying, hills.sumOf(lying));
+            return number >= 0 ? pulls[number] : 0;
+        }
+
+        /** The first of the best ways to pull; NONE: none can be. */
+        int bestPull(int lying) {
+            int sum = hills.sumOf(lying);
+            int found = NONE;
+            int best = NONE;
+            for (int way = 0; way < hills.ways; way++) {
+                int behind = numberBehind(lying, sum, way);
+                if (behind >= 0 && isBetterPull(pulls[behind], best)) {
+                    found = way;
+                    best = pulls[behind];
+                }
+            }
+            return found;
         }
 
         private long comingsOf(int lying) {
@@ -1914,48 +1959,6 @@ public final class PassHuts {
             return (int) Math.min((long) some + others, (long) MOST_ROWS);
         }
 
-        /** In how many carryings two who pull by turns are through. */
-        int pullLength() {
-            clearTally();
-            for (int i = size - 1; i >= 0; i--) {
-                int lying = lyings.lyingAt(order[i]);
-                int way = bestPull(lying);
-                tally[order[i]] = way < 0 ? 0 : pullBehind(lying, way) + 1;
-            }
-            return size > 0 ? tally[order[0]] : 0;
-        }
-
-        /** The first of the best ways to pull from here, all that comes behind being in the tally; NONE: none can be. */
-        int bestPull(int lying) {
-            int found = NONE;
-            int best = NONE;
-            for (int way = 0; way < hills.ways; way++) {
-                int length = pullBehind(lying, way);
-                if (length >= 0 && (found < 0 || isBetterPull(length, best))) {
-                    found = way;
-                    best = length;
-                }
-            }
-            return found;
-        }
-
-        private int pullBehind(int lying, int way) {
-            int sum = hills.sumOf(lying);
-            int next = hills.afterWay(lying, sum, way);
-            int number = next < 0 ? NONE : numberBehind(next, sum, way);
-            return number < 0 ? NONE : tally[number];
-        }
-
-        // An even number of carryings behind one's own is lost by the other one, who has to begin it.
-        private static boolean isBetterPull(int length, int best) {
-            boolean winsSo = length % 2 == 0;
-            boolean winsByBest = best % 2 == 0;
-            if (winsSo != winsByBest) {
-                return winsSo;
-            }
-            return winsSo ? length < best : length > best;
-        }
-
         /** How likely a load lies in the hut behind so many ways drawn, in millionths. */
         int millionths(int hut, int times) {
             clearTally();
@@ -2003,13 +2006,13 @@ public final class PassHuts {
     /** What is found by going through ways to lie. */
     private static final class Survey {
         private final Lyings lyings;
-        private final Comings comings;
+        private final Prospects prospects;
         private final int[] tally = new int[MOST_HUTS * SUMS];
         private Hills hills;
 
-        Survey(Lyings lyings, Comings comings, Hills hills) {
+        Survey(Lyings lyings, Prospects prospects, Hills hills) {
             this.lyings = lyings;
-            this.comings = comings;
+            this.prospects = prospects;
             this.hills = hills;
         }
 
@@ -2033,7 +2036,7 @@ public final class PassHuts {
             int end = lyings.endOf(sum, hills.huts);
             for (int number = lyings.firstOf(sum); number < end; number++) {
                 boolean can = hills.isWayToLie(lyings.lyingAt(number));
-                if (can && (comings.hutsFromNumber(number) >> hut & 1) != 0) {
+                if (can && (prospects.hutsFromNumber(number) >> hut & 1) != 0) {
                     found++;
                 }
             }
@@ -2057,7 +2060,7 @@ public final class PassHuts {
             int end = lyings.endOf(sum, hills.huts);
             for (int number = lyings.firstOf(sum); number < end; number++) {
                 int lying = lyings.lyingAt(number);
-                if (hills.isWayToLie(lying) && (comings.hutsFromNumber(number) & bits) != bits) {
+                if (hills.isWayToLie(lying) && (prospects.hutsFromNumber(number) & bits) != bits) {
                     return lying;
                 }
             }
@@ -2081,7 +2084,7 @@ public final class PassHuts {
                 int end = lyings.endOf(sum, hills.huts);
                 for (int number = lyings.firstOf(sum); number < end; number++) {
                     int lying = lyings.lyingAt(number);
-                    if (hills.isWayToLie(lying) && comings.hutsFromNumber(number) == hills.allHuts()) {
+                    if (hills.isWayToLie(lying) && prospects.hutsFromNumber(number) == hills.allHuts()) {
                         return lying;
                     }
                 }
@@ -2096,7 +2099,7 @@ public final class PassHuts {
         int firstToLayIn(int lying, int hut) {
             for (int i = hills.huts - 1; i >= 0; i--) {
                 int next = hills.afterLaying(lying, i);
-                if (next >= 0 && comings.comesTo(next, hut)) {
+                if (next >= 0 && prospects.comesTo(next, hut)) {
                     return i;
                 }
             }
@@ -2109,7 +2112,7 @@ public final class PassHuts {
                 int end = lyings.endOf(sum, hills.huts);
                 for (int number = lyings.firstOf(sum); number < end; number++) {
                     int rest = lyings.lyingAt(number);
-                    if (isWithin(rest, lying) && (comings.hutsFromNumber(number) >> hut & 1) == 0) {
+                    if (isWithin(rest, lying) && (prospects.hutsFromNumber(number) >> hut & 1) == 0) {
                         return rest;
                     }
                 }
