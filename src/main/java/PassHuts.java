@@ -1478,6 +1478,12 @@ public final class PassHuts {
             int number = byHighest[high] + byLowest[low];
             return number < ALL_LYINGS ? number : NONE;
         }
+
+        /** The number of what one comes to over this way; NONE if the carrying can't be. */
+        int numberBehind(Hills hills, int lying, int sum, int way) {
+            int next = hills.afterWay(lying, sum, way);
+            return next < 0 ? NONE : numberOf(next, sum - hills.prices[way] + 1);
+        }
     }
 
     /** What is so now, how it was before, and the marks. */
@@ -1652,7 +1658,7 @@ public final class PassHuts {
             long later = 0;
             int pull = NONE;
             for (int way = 0; way < hills.ways; way++) {
-                int behind = numberBehind(lying, sum, way);
+                int behind = lyings.numberBehind(hills, lying, sum, way);
                 if (behind >= 0) {
                     later |= comings[behind];
                     pull = isBetterPull(pulls[behind], pull) ? pulls[behind] : pull;
@@ -1666,14 +1672,6 @@ public final class PassHuts {
             }
             comings[number] = later << 1 | now;
             pulls[number] = pull + 1;
-        }
-
-        private int numberBehind(int lying, int sum, int way) {
-            int next = hills.afterWay(lying, sum, way);
-            if (next < 0 || way < 0 || way >= MOST_WAYS) {
-                return NONE;
-            }
-            return lyings.numberOf(next, sum - hills.prices[way] + 1);
         }
 
         // An even number of carryings behind one's own is lost by the other one, who has to begin it.
@@ -1697,7 +1695,7 @@ public final class PassHuts {
             int found = NONE;
             int best = NONE;
             for (int way = 0; way < hills.ways; way++) {
-                int behind = numberBehind(lying, sum, way);
+                int behind = lyings.numberBehind(hills, lying, sum, way);
                 if (behind >= 0 && isBetterPull(pulls[behind], best)) {
                     found = way;
                     best = pulls[behind];
@@ -1822,22 +1820,21 @@ public final class PassHuts {
         }
 
         private void spread(int number, int sum) {
+            if (size >= ALL_LYINGS) {
+                return;
+            }
             order[size] = number;
             size++;
             int lying = lyings.lyingAt(number);
             int fewest = fewestOf(number) + 1;
             int longest = longestOf(number) + 1;
             for (int way = 0; way < hills.ways; way++) {
-                int next = hills.afterWay(lying, sum, way);
-                if (next >= 0) {
+                int behind = lyings.numberBehind(hills, lying, sum, way);
+                if (behind >= 0) {
                     infos[number] |= GOES_ON;
-                    merge(numberBehind(next, sum, way), fewest, longest);
+                    merge(behind, fewest, longest);
                 }
             }
-        }
-
-        private int numberBehind(int next, int sum, int way) {
-            return way >= 0 && way < MOST_WAYS ? lyings.numberOf(next, sum - hills.prices[way] + 1) : NONE;
         }
 
         private void merge(int number, int fewest, int longest) {
@@ -1947,10 +1944,9 @@ public final class PassHuts {
             int lying = lyings.lyingAt(number);
             int sum = hills.sumOf(lying);
             for (int way = 0; way < hills.ways; way++) {
-                int next = hills.afterWay(lying, sum, way);
-                int later = next < 0 ? NONE : numberBehind(next, sum, way);
-                if (later >= 0 && fewestOf(later) == fewestOf(number) + 1) {
-                    tally[later] = addRows(tally[later], tally[number]);
+                int behind = lyings.numberBehind(hills, lying, sum, way);
+                if (behind >= 0 && fewestOf(behind) == fewestOf(number) + 1) {
+                    tally[behind] = addRows(tally[behind], tally[number]);
                 }
             }
         }
@@ -1963,9 +1959,12 @@ public final class PassHuts {
         int millionths(int hut, int times) {
             clearTally();
             long all = 1;
-            for (int i = 0; i < times; i++) {
+            for (int time = 0; time < times; time++) {
                 all *= hills.ways;
-                drawOnce();
+                // From the fewest loads on, so that what is passed on in this draw is not passed on once more.
+                for (int i = size - 1; i >= 0; i--) {
+                    drawFrom(order[i]);
+                }
             }
             long with = 0;
             for (int i = 0; i < size; i++) {
@@ -1976,25 +1975,17 @@ public final class PassHuts {
             return all > 0 ? (int) (with * 1000000L / all) : NONE;
         }
 
-        // From the fewest loads on, so that what is passed on in this draw is not passed on once more.
-        private void drawOnce() {
-            for (int i = size - 1; i >= 0; i--) {
-                int number = order[i];
-                if (tally[number] > 0) {
-                    drawFrom(number);
-                }
-            }
-        }
-
         private void drawFrom(int number) {
+            if (tally[number] == 0) {
+                return;
+            }
             int lying = lyings.lyingAt(number);
             int sum = hills.sumOf(lying);
             int staying = 0;
             for (int way = 0; way < hills.ways; way++) {
-                int next = hills.afterWay(lying, sum, way);
-                int later = next < 0 ? NONE : numberBehind(next, sum, way);
-                if (later >= 0) {
-                    tally[later] += tally[number];
+                int behind = lyings.numberBehind(hills, lying, sum, way);
+                if (behind >= 0) {
+                    tally[behind] += tally[number];
                 } else {
                     staying++;
                 }
@@ -2055,7 +2046,7 @@ public final class PassHuts {
             return found;
         }
 
-        /** The first way to lay so many loads by which not all of these huts can be come to; below 0 if there is none. */
+        /** The first way to lay so many loads by which not all of these huts can be come to; NONE: there is none. */
         private int firstFailing(int bits, int sum) {
             int end = lyings.endOf(sum, hills.huts);
             for (int number = lyings.firstOf(sum); number < end; number++) {
