@@ -222,6 +222,17 @@ public final class PromiseTest {
         no("nothing can be undone", x.undo());
         due("hills() without a sign", x.hills(), 0);
         due("no huts", x.count(0), 0);
+        due("hills()", Tapes.hills(x, TWO), 0);
+        due("least(1) over a path", x.least(1), 1);
+        due("most(1) over a path", x.most(1), 1);
+        due("other hills with the same loads", Tapes.hills(x, "hut p plain loads 2; hut q plain loads 0;"), 0);
+        due("least(1) without a path", x.least(1), -1);
+        due("most(1) without a path", x.most(1), 0);
+        due("hills() barred now", Tapes.hills(x, TWO + "bars here = 2;"), 0);
+        no("can(0, 1) barred", x.can(0, 1));
+        due("hills() barred otherwise", Tapes.hills(x, TWO + "bars here = 3;"), 0);
+        due("hills() barred otherwise", Tapes.hills(x, TWO + "bars here = 3;"), 0);
+        yes("can(0, 1) then", x.can(0, 1));
         due("no blanks needed", Tapes.hills(x, "hut a inn loads 3;hut b small loads 1;path b a takes 4;bars 2here;"), 1
             + 16 * 61);
         due("blanks", Tapes.hills(x, "\n hut\na inn\n\nloads 3;hut b small loads 1 ;path b a takes 4;bars(here)<2 ;\n"), 0);
@@ -465,6 +476,12 @@ public final class PromiseTest {
     private static void judged() {
         promise = 12;
         PassHuts x = on(FOUR);
+        Tapes.trip(x, "carry a b; lay c; carry b c; eat b; lay d; lay d;");
+        due("judged(1) asked first", x.judged(1), 1);
+        PassHuts y = on(FOUR);
+        Tapes.trip(y, "carry a b; lay c; carry b c; eat b; lay d; eat a;");
+        due("judged(2) asked first", y.judged(2), 6);
+        x.trip();
         due("judged(0) without lines", x.judged(0), -1);
         due("judged(1) without lines", x.judged(1), -1);
         due("judged(2) without lines", x.judged(2), 7);
@@ -931,6 +948,9 @@ public final class PromiseTest {
         due("his(): 4 0 0 to 0 0 1 or 1 1 0", z.his(), 1);
         PassHuts y = on("hut q plain loads 0;hut p plain loads 2;hut r plain loads 0;path p q takes 2;path p r takes 2;");
         due("his() of equal ones", y.his(), 8);
+        PassHuts w = on("hut p plain loads 4;hut q plain loads 1;hut r plain loads 0;path p q takes 2;path p r takes 4;");
+        due("his(): by the dear one at once, asked first", w.his(), 2);
+        due("wins(1)", w.wins(1), 1);
     }
 
     private static void see() {
@@ -1102,6 +1122,15 @@ public final class PromiseTest {
         x.eat(0);
         x.mark(3, true);
         due("hut(0, 1)", x.hut(0, 1), 3);
+        x.see(0, 1, true);
+        x.mark(1, false);
+        x.mark(3, true);
+        x.see(1, 1, true);
+        due("fit() by what is seen now", x.fit(), 3);
+        x.mark(1, true);
+        due("fit() by what was seen then", x.fit(), 3);
+        x.see(0, 2, true);
+        due("fit() by both", x.fit(), 2);
         PassHuts fresh = new PassHuts();
         yes("mark(1, false) at first", fresh.mark(1, false));
         yes("mark(1, true) at first", fresh.mark(1, true));
