@@ -105,8 +105,7 @@ public final class PassHuts {
     }
 
     public int price(int hut, int other) {
-        int way = land.wayBetween(hut, other);
-        return way < 0 ? NONE : land.prices[way];
+        return land.priceOver(land.wayBetween(hut, other));
     }
 
     public boolean can(int hut, int other) {
@@ -114,13 +113,12 @@ public final class PassHuts {
     }
 
     public int carry(int hut, int other) {
-        int way = land.wayBetween(hut, other);
         int next = land.afterCarrying(story.lying, hut, other);
-        if (way < 0 || next < 0) {
+        if (next < 0) {
             return NONE;
         }
         story.turnTo(next, 1);
-        return land.prices[way];
+        return land.priceOver(land.wayBetween(hut, other));
     }
 
     public int lay(int hut) {
@@ -1048,7 +1046,6 @@ public final class PassHuts {
         private static final int NO_LIMIT = 16;
 
         final int[] kinds = new int[MOST_HUTS];
-        final int[] prices = new int[MOST_WAYS];
         final Law law = new Law();
         int huts;
         // Both ways over each path, by the hut from which, then by the one to which.
@@ -1058,6 +1055,7 @@ public final class PassHuts {
         private final int[] told = new int[MOST_HUTS];
         private final int[] takes = new int[MOST_HUTS * MOST_HUTS];
         private final int[] wayOf = new int[MOST_HUTS * MOST_HUTS];
+        private final int[] prices = new int[MOST_WAYS];
         private final int[] from = new int[MOST_WAYS];
         private final int[] to = new int[MOST_WAYS];
         private final int[] fromShift = new int[MOST_WAYS];
@@ -1106,8 +1104,8 @@ public final class PassHuts {
 
         /** Makes the ways of the paths, once all huts are told. */
         void finish() {
-            for (int i = 0; i < huts; i++) {
-                for (int j = 0; j < huts; j++) {
+            for (int i = 0; i < huts && i < MOST_HUTS; i++) {
+                for (int j = 0; j < huts && j < MOST_HUTS; j++) {
                     if (takesBetween(i, j) != 0) {
                         addWay(i, j);
                     }
@@ -1119,7 +1117,7 @@ public final class PassHuts {
         }
 
         private void addWay(int i, int j) {
-            if (ways < MOST_WAYS) {
+            if (ways < MOST_WAYS && isHut(i) && isHut(j)) {
                 int price = takesBetween(i, j);
                 if (kinds[i] == INN) {
                     price = Math.max(2, price - 1);
@@ -1162,6 +1160,10 @@ public final class PassHuts {
 
         int wayBetween(int hut, int other) {
             return isHut(hut) && isHut(other) ? wayOf[hut * MOST_HUTS + other] : NONE;
+        }
+
+        int priceOver(int way) {
+            return way >= 0 && way < ways && way < MOST_WAYS ? prices[way] : NONE;
         }
 
         int codeOf(int way) {
@@ -1482,7 +1484,7 @@ public final class PassHuts {
         /** The number of what one comes to over this way; NONE if the carrying can't be. */
         int numberBehind(Hills hills, int lying, int sum, int way) {
             int next = hills.afterWay(lying, sum, way);
-            return next < 0 ? NONE : numberOf(next, sum - hills.prices[way] + 1);
+            return next < 0 ? NONE : numberOf(next, sum - hills.priceOver(way) + 1);
         }
     }
 
@@ -1660,8 +1662,9 @@ public final class PassHuts {
             for (int way = 0; way < hills.ways; way++) {
                 int behind = lyings.numberBehind(hills, lying, sum, way);
                 if (behind >= 0) {
-                    later |= comings[behind];
-                    pull = isBetterPull(pulls[behind], pull) ? pulls[behind] : pull;
+                    int length = pullAt(behind);
+                    later |= comingsAt(behind);
+                    pull = isBetterPull(length, pull) ? length : pull;
                 }
             }
             long now = 0;
@@ -1684,9 +1687,12 @@ public final class PassHuts {
             return winsSo ? length < best : length > best;
         }
 
+        private int pullAt(int number) {
+            return number >= 0 && number < ALL_LYINGS ? pulls[number] : 0;
+        }
+
         int pullLength(int lying) {
-            int number = lyings.numberOf(lying, hills.sumOf(lying));
-            return number >= 0 ? pulls[number] : 0;
+            return pullAt(lyings.numberOf(lying, hills.sumOf(lying)));
         }
 
         /** The first of the best ways to pull; NONE: none can be. */
@@ -1696,17 +1702,20 @@ public final class PassHuts {
             int best = NONE;
             for (int way = 0; way < hills.ways; way++) {
                 int behind = lyings.numberBehind(hills, lying, sum, way);
-                if (behind >= 0 && isBetterPull(pulls[behind], best)) {
+                if (behind >= 0 && isBetterPull(pullAt(behind), best)) {
                     found = way;
-                    best = pulls[behind];
+                    best = pullAt(behind);
                 }
             }
             return found;
         }
 
+        private long comingsAt(int number) {
+            return number >= 0 && number < ALL_LYINGS ? comings[number] : 0;
+        }
+
         private long comingsOf(int lying) {
-            int number = lyings.numberOf(lying, hills.sumOf(lying));
-            return number >= 0 ? comings[number] : 0;
+            return comingsAt(lyings.numberOf(lying, hills.sumOf(lying)));
         }
 
         private static int fewest(long comings, int hut) {
@@ -1732,7 +1741,7 @@ public final class PassHuts {
         }
 
         int hutsFromNumber(int number) {
-            return number >= 0 && number < ALL_LYINGS ? hutsOf(comings[number]) : 0;
+            return hutsOf(comingsAt(number));
         }
 
         private int hutsOf(long some) {
@@ -1802,7 +1811,7 @@ public final class PassHuts {
                 return;
             }
             for (int i = 0; i < size; i++) {
-                infos[order[i]] = 0;
+                setInfo(numberAt(i), 0);
             }
             size = 0;
             known = true;
@@ -1812,7 +1821,7 @@ public final class PassHuts {
             for (int sum = all; sum >= 0; sum--) {
                 int first = lyings.firstOf(sum);
                 for (int number = lyings.endOf(sum, hills.huts) - 1; number >= first; number--) {
-                    if (infos[number] != 0) {
+                    if (infoOf(number) != 0) {
                         spread(number, sum);
                     }
                 }
@@ -1831,44 +1840,66 @@ public final class PassHuts {
             for (int way = 0; way < hills.ways; way++) {
                 int behind = lyings.numberBehind(hills, lying, sum, way);
                 if (behind >= 0) {
-                    infos[number] |= GOES_ON;
+                    setInfo(number, infoOf(number) | GOES_ON);
                     merge(behind, fewest, longest);
                 }
             }
         }
 
         private void merge(int number, int fewest, int longest) {
-            if (number < 0 || number >= ALL_LYINGS) {
-                return;
-            }
             int few = fewest;
             int most = longest;
-            if (infos[number] != 0) {
+            if (infoOf(number) != 0) {
                 few = Math.min(few, fewestOf(number));
                 most = Math.max(most, longestOf(number));
             }
-            infos[number] = REACHED | most << 4 | few;
+            setInfo(number, REACHED | most << 4 | few);
+        }
+
+        /** The number of what was reached, the most loads first. */
+        private int numberAt(int i) {
+            return i >= 0 && i < size && i < ALL_LYINGS ? order[i] : NONE;
+        }
+
+        private int infoOf(int number) {
+            return number >= 0 && number < ALL_LYINGS ? infos[number] : 0;
+        }
+
+        private void setInfo(int number, int info) {
+            if (number >= 0 && number < ALL_LYINGS) {
+                infos[number] = info;
+            }
         }
 
         private int fewestOf(int number) {
-            return infos[number] & 15;
+            return infoOf(number) & 15;
         }
 
         private int longestOf(int number) {
-            return infos[number] >> 4 & 15;
+            return infoOf(number) >> 4 & 15;
+        }
+
+        private int tallyOf(int number) {
+            return number >= 0 && number < ALL_LYINGS ? tally[number] : 0;
+        }
+
+        private void setTally(int number, int many) {
+            if (number >= 0 && number < ALL_LYINGS) {
+                tally[number] = many;
+            }
         }
 
         int mostLoads(int hut) {
             int most = 0;
             for (int i = 0; i < size; i++) {
-                most = Math.max(most, hills.loadsIn(lyings.lyingAt(order[i]), hut));
+                most = Math.max(most, hills.loadsIn(lyings.lyingAt(numberAt(i)), hut));
             }
             return most;
         }
 
         int mostTogether(int hut) {
             for (int i = 0; i < size; i++) {
-                int lying = lyings.lyingAt(order[i]);
+                int lying = lyings.lyingAt(numberAt(i));
                 if (hills.loadsIn(lying, hut) > 0) {
                     return hills.sumOf(lying);
                 }
@@ -1879,9 +1910,9 @@ public final class PassHuts {
         int fewestToHave(int bits) {
             int found = NONE;
             for (int i = 0; i < size; i++) {
-                boolean has = (hills.occupied(lyings.lyingAt(order[i])) & bits) == bits;
-                if (has && (found < 0 || fewestOf(order[i]) < found)) {
-                    found = fewestOf(order[i]);
+                boolean has = (hills.occupied(lyings.lyingAt(numberAt(i))) & bits) == bits;
+                if (has && (found < 0 || fewestOf(numberAt(i)) < found)) {
+                    found = fewestOf(numberAt(i));
                 }
             }
             return found;
@@ -1890,9 +1921,9 @@ public final class PassHuts {
         int fewestToSum(int sum) {
             int found = NONE;
             for (int i = 0; i < size; i++) {
-                boolean has = hills.sumOf(lyings.lyingAt(order[i])) == sum;
-                if (has && (found < 0 || fewestOf(order[i]) < found)) {
-                    found = fewestOf(order[i]);
+                boolean has = hills.sumOf(lyings.lyingAt(numberAt(i))) == sum;
+                if (has && (found < 0 || fewestOf(numberAt(i)) < found)) {
+                    found = fewestOf(numberAt(i));
                 }
             }
             return found;
@@ -1901,7 +1932,7 @@ public final class PassHuts {
         int longestRow() {
             int longest = 0;
             for (int i = 0; i < size; i++) {
-                longest = Math.max(longest, longestOf(order[i]));
+                longest = Math.max(longest, longestOf(numberAt(i)));
             }
             return longest;
         }
@@ -1909,7 +1940,7 @@ public final class PassHuts {
         int countEnds() {
             int found = 0;
             for (int i = 0; i < size; i++) {
-                if ((infos[order[i]] & GOES_ON) == 0) {
+                if ((infoOf(numberAt(i)) & GOES_ON) == 0) {
                     found++;
                 }
             }
@@ -1918,11 +1949,9 @@ public final class PassHuts {
 
         private void clearTally() {
             for (int i = 0; i < size; i++) {
-                tally[order[i]] = 0;
+                setTally(numberAt(i), 0);
             }
-            if (size > 0) {
-                tally[order[0]] = 1;
-            }
+            setTally(numberAt(0), 1);
         }
 
         /** How many rows of so many carryings, the fewest that there are, bring a load to the hut. */
@@ -1930,11 +1959,11 @@ public final class PassHuts {
             clearTally();
             int rows = 0;
             for (int i = 0; i < size; i++) {
-                int number = order[i];
+                int number = numberAt(i);
                 if (fewestOf(number) < fewest) {
                     passRowsOn(number);
                 } else if (fewestOf(number) == fewest && hills.loadsIn(lyings.lyingAt(number), hut) > 0) {
-                    rows = addRows(rows, tally[number]);
+                    rows = addRows(rows, tallyOf(number));
                 }
             }
             return rows;
@@ -1946,7 +1975,7 @@ public final class PassHuts {
             for (int way = 0; way < hills.ways; way++) {
                 int behind = lyings.numberBehind(hills, lying, sum, way);
                 if (behind >= 0 && fewestOf(behind) == fewestOf(number) + 1) {
-                    tally[behind] = addRows(tally[behind], tally[number]);
+                    setTally(behind, addRows(tallyOf(behind), tallyOf(number)));
                 }
             }
         }
@@ -1963,20 +1992,21 @@ public final class PassHuts {
                 all *= hills.ways;
                 // From the fewest loads on, so that what is passed on in this draw is not passed on once more.
                 for (int i = size - 1; i >= 0; i--) {
-                    drawFrom(order[i]);
+                    drawFrom(numberAt(i));
                 }
             }
             long with = 0;
             for (int i = 0; i < size; i++) {
-                if (hills.loadsIn(lyings.lyingAt(order[i]), hut) > 0) {
-                    with += tally[order[i]];
+                if (hills.loadsIn(lyings.lyingAt(numberAt(i)), hut) > 0) {
+                    with += tallyOf(numberAt(i));
                 }
             }
             return all > 0 ? (int) (with * 1000000L / all) : NONE;
         }
 
         private void drawFrom(int number) {
-            if (tally[number] == 0) {
+            int many = tallyOf(number);
+            if (many == 0) {
                 return;
             }
             int lying = lyings.lyingAt(number);
@@ -1985,12 +2015,12 @@ public final class PassHuts {
             for (int way = 0; way < hills.ways; way++) {
                 int behind = lyings.numberBehind(hills, lying, sum, way);
                 if (behind >= 0) {
-                    tally[behind] += tally[number];
+                    setTally(behind, tallyOf(behind) + many);
                 } else {
                     staying++;
                 }
             }
-            tally[number] *= staying;
+            setTally(number, many * staying);
         }
     }
 

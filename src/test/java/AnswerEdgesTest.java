@@ -32,6 +32,7 @@ public final class AnswerEdgesTest {
         most();
         leastAndRow();
         ways();
+        waysOfTheFewestOnly();
         waysOfMany();
         chanceOfMany();
         fiveHundredAndTwelveCalls();
@@ -57,6 +58,7 @@ public final class AnswerEdgesTest {
         always();
         worst();
         best();
+        ofSmallOnesBehindPlainOnes();
         wins();
         byFewerAndByMore();
         pulls();
@@ -330,6 +332,18 @@ public final class AnswerEdgesTest {
         Check.due("ways(0), never", y.ways(0), 0);
         y.lay(0);
         Check.due("ways(0), it does", y.ways(0), 1);
+    }
+
+    /** A way to lie on a row of the fewest that one comes to by more CARRYINGS, too: those rows don't count. */
+    private static void waysOfTheFewestOnly() {
+        PassHuts x = Check.on("hut a inn loads 1;hut b plain loads 4;hut c small loads 3;hut d plain loads 0;path a b takes 4;"
+            + "path a c takes 2;path b c takes 2;path a d takes 4;");
+        Check.due("least(3)", x.least(3), 3);
+        Check.due("ways(3): b to a and c to a, either first", x.ways(3), 2);
+        PassHuts y = Check.on("hut a plain loads 1;hut b inn loads 7;hut c plain loads 4;hut d plain loads 0;path a b takes 3;"
+            + "path a c takes 4;path b c takes 2;path a d takes 4;");
+        Check.due("least(3)", y.least(3), 4);
+        Check.due("ways(3): three from b, or two and one from c as one likes", y.ways(3), 4);
     }
 
     // Each two have a path; to the last hut, a steep one, one comes by 3, and by the bars not before few are left.
@@ -832,6 +846,21 @@ public final class AnswerEdgesTest {
         Check.due("best(-2)", five.best(-2), -2);
     }
 
+    /** What the small ones can't hold doesn't count, not even behind other HILLS by which it did. */
+    private static void ofSmallOnesBehindPlainOnes() {
+        String rest = " loads 0;hut b plain loads 0;hut c plain loads 0;hut d plain loads 0;hut e plain loads 0;"
+            + "path a b takes 4;path a c takes 4;path a d takes 4;path a e takes 4;";
+        PassHuts x = Check.on("hut a plain" + rest);
+        Check.due("best(-1): four in a", x.best(-1), 4);
+        Check.due("best(0)", x.best(0), 4);
+        Check.due("comes(1, 4)", x.comes(1, 4), 36);
+        Check.taken(x, "hut a small" + rest);
+        Check.due("best(-1): one in each", x.best(-1), 5);
+        Check.due("best(0)", x.best(0), 1);
+        Check.due("comes(1, 4): one of b at least", x.comes(1, 4), 35);
+        Check.due("layings(4)", x.layings(4), 69);
+    }
+
     /** WINS: who can't has lost; the winner's as few, the loser's as many. */
     private static void wins() {
         PassHuts x = Check.on(ELEVEN);
@@ -870,6 +899,11 @@ public final class AnswerEdgesTest {
             + "path a c takes 3;path b c takes 4;").longest(), 5);
         Check.due("longest()", Check.on("hut a plain loads 5;hut b plain loads 1;hut c inn loads 2;path a b takes 2;"
             + "path a c takes 3;path b c takes 3;").longest(), 7);
+        PassHuts dear = Check.on("hut a plain loads 9;hut b plain loads 1;hut c plain loads 0;path a b takes 2;path b c takes 2;"
+            + "path a c takes 4;");
+        Check.due("both(0, 2): by 4 at once, with fewer loads then", dear.both(0, 2), 1);
+        Check.due("over(2): by 2 and 2", dear.over(2), 8);
+        Check.due("cover(): by 4 at once", dear.cover(), 1);
         PassHuts z = Check.on("hut a plain loads 5;hut b plain loads 0;hut c plain loads 0;hut d plain loads 0;path a b takes 2;"
             + "path b c takes 2;path a c takes 4;path c d takes 2;");
         Check.due("least(2)", z.least(2), 1);
@@ -961,6 +995,10 @@ public final class AnswerEdgesTest {
         small.see(0, 1, false);
         small.see(0, 1, true);
         Check.due("look() of none", small.look(), -1);
+        PassHuts second = Check.on("hut p plain loads 9;hut q small loads 3;");
+        Check.due("look() of four: 9 to 12 in p", second.look(), 11);
+        second.see(0, 11, true);
+        Check.due("look() of two", second.look(), 12);
     }
 
     /** CHANCE: 1 to 4 times; in millionths, cut; NONE: there is no path. */

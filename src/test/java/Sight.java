@@ -18,11 +18,12 @@ final class Sight {
         return seen.toString();
     }
 
-    /** What can be seen of HILLS by some seventy calls. */
+    /** What can be seen of HILLS by some ninety calls. */
     static String ofHills(PassHuts x) {
         StringBuilder seen = new StringBuilder(of(x));
         for (int hut = 0; hut < 5; hut++) {
-            seen.append("\n  m").append(x.most(hut)).append(" L").append(x.least(hut));
+            seen.append("\n  m").append(x.most(hut)).append(" L").append(x.least(hut)).append(" S").append(x.sure(hut));
+            seen.append(" C").append(x.comes(hut, 12)).append(',').append(x.comes(hut, 5));
             for (int other = hut + 1; other < 5; other++) {
                 seen.append(' ').append(x.price(hut, other)).append(x.price(other, hut));
             }

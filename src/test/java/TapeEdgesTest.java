@@ -528,7 +528,7 @@ public final class TapeEdgesTest {
             }
             Check.taken(x, text);
             Check.yes("all as of " + text + " alone", Sight.ofHills(x).equals(Sight.ofHills(Check.on(text))));
-            calls += 70;
+            calls += 110;
         }
         PassHuts y = Check.on(TWO);
         String[] trips = {"lay p;lay q;eat p;", "", "carry p q;", "eat q;eat q;lay p;lay p;lay p;", "lay q;"};
