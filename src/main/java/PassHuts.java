@@ -1335,14 +1335,22 @@ public final class PassHuts {
             }
             // A least way goes through each hut once at most, so as many rounds as huts are enough.
             for (int round = 0; round < huts; round++) {
-                for (int way = 0; way < ways && way < MOST_WAYS; way++) {
-                    int product = products[from[way]];
-                    if (product < NO_WAY) {
-                        products[to[way]] = Math.min(products[to[way]], product * prices[way]);
+                for (int i = 0; i < huts && i < MOST_HUTS; i++) {
+                    if (products[i] < NO_WAY) {
+                        passProductOn(i, products[i]);
                     }
                 }
             }
             return products[other] < NO_WAY ? products[other] : NONE;
+        }
+
+        private void passProductOn(int hut, int product) {
+            for (int i = 0; i < huts && i < MOST_HUTS; i++) {
+                int price = priceOver(wayBetween(hut, i));
+                if (price > 0) {
+                    products[i] = Math.min(products[i], product * price);
+                }
+            }
         }
     }
 
@@ -2172,7 +2180,7 @@ public final class PassHuts {
             for (int number = lyings.firstOf(sum); number < end; number++) {
                 int lying = lyings.lyingAt(number);
                 if (hills.isWayToLie(lying) && story.agrees(hills, lying)) {
-                    for (int i = 0; i < hills.huts; i++) {
+                    for (int i = 0; i < hills.huts && i < MOST_HUTS; i++) {
                         tally[i * SUMS + Math.min(hills.loadsIn(lying, i), MOST_LOADS)]++;
                     }
                 }
@@ -2184,7 +2192,7 @@ public final class PassHuts {
             int all = countFitting(story);
             int best = all;
             int found = NONE;
-            for (int i = 0; i < hills.huts; i++) {
+            for (int i = 0; i < hills.huts && i < MOST_HUTS; i++) {
                 int fewer = 0;
                 for (int loads = 1; loads <= MOST_LOADS; loads++) {
                     fewer += tally[i * SUMS + loads - 1];
